@@ -380,7 +380,10 @@ public final class ConditionedProofs {
             }
             size--;
             char letter = order[size];
-            byLetter[letter - 'A'] = null;
+            int index = letter - 'A';
+            if (index >= 0 && index < LETTERS) {
+                byLetter[index] = null;
+            }
             return letter;
         }
     }

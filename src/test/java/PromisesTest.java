@@ -150,6 +150,14 @@ public final class PromisesTest {
         due("5 bracket at twelve", new Talk().program('X', "a=+++++++++++["), fault(13));
         due("5 minus at twelve", new Talk().program('X', "a=-----------1-"), fault(14));
         due("5 letter at twelve", new Talk().program('X', "a=+++++++++++X("), fault(14));
+        due("5 braces twelve deep", new Talk().program('X', "a=" + "{".repeat(11) + "a" + "|_>1}".repeat(11)), 1);
+        due("5 braces thirteen deep", new Talk().program('X', "a=" + "{".repeat(12)), fault(13));
+        String choices = "=1?1:1]".repeat(5) + "aaaaaa";
+        due("5 brackets twelve deep", new Talk().program('X', "a=++++++[[[[[a" + choices), 1);
+        due("5 brackets thirteen deep", new Talk().program('X', "a=++++++[[[[[[a" + choices), fault(13));
+        due("5 a case is one deeper", new Talk().program('X', "a=++++++++++{a|_>+"), fault(17));
+        due("5 a choice's ends are one deeper", new Talk().program('X', "a=++++++++++[a=a?a:~]aaaaaaaaaa"), 1);
+        due("5 and no deeper", new Talk().program('X', "a=++++++++++[a=a?a:["), fault(19));
         due("5 tilde at twelve", new Talk().program('X', "a=+++++++++++~aaaaaaaaaaa"), 1);
     }
 
@@ -409,6 +417,18 @@ public final class PromisesTest {
         due("7 a declaration leaves the result", t.lemma('M'), 0);
         due("7 throwing changes nothing", t.check("M"), 1);
         minimalNumber();
+        deepestLemma();
+    }
+
+    private static void deepestLemma() {
+        Talk t = growingWorld().code('V', "a=U(U(U(U(U(U(U(U(a))))))))").code('B', "a=V(V(V(V(a))))")
+                .constant('I', "a:T,?B(E)=a>F(a)").constant('O', "a:T,F(a)>F(a)");
+        due("7 34 levels", t.check("I(_)"), 100);
+        String page = t.page();
+        due("7 kept", t.lemma('L'), 0);
+        due("7 another page", t.check("E"), 1);
+        due("7 used", t.check("O(_L)"), 100);
+        Report.due("7 the same", t.page(), page);
     }
 
     private static void minimalNumber() {
