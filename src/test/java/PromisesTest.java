@@ -181,11 +181,6 @@ public final class PromisesTest {
         due("4 the page stays empty", t.it.length(), 0);
     }
 
-    private static Talk smallWorld() {
-        return new Talk().constant('T', ">*").constant('E', ">T").constant('D', "T,T>T").constant('F', "T>*")
-                .code('P', "a=a").constant('J', "?P(1)=1>T").constant('K', "?P(1)=1>*").constant('S', "#>*");
-    }
-
     private static void declareWrongs() {
         String[] texts = {"x:1>*", ">x", ">1", ">E", "E>*", "F(1)>*", "F(EE)>*", "F>*", "Q>*", "P(1)>*", "x:T,F(y)>*",
             "F(x),x:T>*", "x:F(x)>*", "F(J)>*", "K>*", ">K", "F(D(EJ))>*", "x:T>x", "x:#>S(x)", "x:#,F(x)>*",
@@ -198,7 +193,7 @@ public final class PromisesTest {
             6, 13, 4, 2, 2, 1000, 3,
             0, 0, 1, 5, 5};
         for (int i = 0; i < texts.length; i++) {
-            Talk t = smallWorld();
+            Talk t = Worlds.small();
             int want = wrongs[i] == ConditionedProofs.NONE ? 1 : wrongs[i] == 1000 ? fault(2) : wrong(wrongs[i]);
             due("4 wrong " + texts[i], t.declare('X', texts[i]), want);
             due("4 kind after " + texts[i], t.it.kind('X'), want < 0 ? 0 : 1);
@@ -207,7 +202,7 @@ public final class PromisesTest {
     }
 
     private static void declareHidesNames() {
-        Talk t = smallWorld();
+        Talk t = Worlds.small();
         due("4 a later name hides", t.declare('G', "a:#,a:T,F(a)>F(a)"), 3);
         due("4 the hidden type is gone", t.declare('H', "a:T,a:#,F(a)>*"), wrong(10));
         t.constant('M', ">F(E)").constant('L', "a:T,F(a)>*");
@@ -219,7 +214,7 @@ public final class PromisesTest {
     }
 
     private static void programAnswers() {
-        Talk t = smallWorld();
+        Talk t = Worlds.small();
         due("5 one", t.program('A', "a=a"), 1);
         due("5 four", t.program('B', "abcd=+ab"), 4);
         due("5 itself", t.program('C', "a={a|0>E|E>0|D(xy)>C(x)|_>C(-a1)}"), 1);
@@ -242,7 +237,7 @@ public final class PromisesTest {
             15, 18, 3, 5, 7, 9,
             4, 4, 30, 7, 3, 4};
         for (int i = 0; i < texts.length; i++) {
-            Talk t = smallWorld();
+            Talk t = Worlds.small();
             due("5 wrong " + texts[i], t.program('X', texts[i]), wrong(wrongs[i]));
             due("5 kind after " + texts[i], t.it.kind('X'), 0);
             due("5 text after " + texts[i], t.it.wipe(), 0);
@@ -250,7 +245,7 @@ public final class PromisesTest {
     }
 
     private static void checkAnswers() {
-        Talk t = smallWorld();
+        Talk t = Worlds.small();
         String[] terms = {"#", "7", "T", "E", "D(EE)", "F(D(EE))", "S(3)", "J", "K"};
         String[] types = {"*", "#", "*", "T", "T", "*", "*", "T", "*"};
         for (int i = 0; i < terms.length; i++) {
@@ -272,14 +267,14 @@ public final class PromisesTest {
         int[] wrongs = {0, 0, 0, 0, 0, 0, 0, 0, 3, 3, 2, 2, 3,
             10, 7, 2, 2, 2, 4, 0, 6, 2};
         for (int i = 0; i < texts.length; i++) {
-            Talk t = smallWorld();
+            Talk t = Worlds.small();
             t.check("E");
             due("6 wrong " + texts[i], t.check(texts[i]), wrong(wrongs[i]));
             Report.due("6 the page stays after " + texts[i], t.page(), "T");
             due("6 no result after " + texts[i], t.lemma('Z'), Talk.STATE);
             due("6 empty text after " + texts[i], t.it.wipe(), 0);
         }
-        Talk t = smallWorld();
+        Talk t = Worlds.small();
         t.check("E");
         due("6 a fault", t.check("E("), fault(2));
         Report.due("6 the page stays after a fault", t.page(), "T");
@@ -287,7 +282,7 @@ public final class PromisesTest {
     }
 
     private static void checkHoles() {
-        Talk t = smallWorld().constant('M', ">F(D(EE))").constant('G', "a:T,b:T,F(D(ab))>F(a)")
+        Talk t = Worlds.small().constant('M', ">F(D(EE))").constant('G', "a:T,b:T,F(D(ab))>F(a)")
                 .constant('H', "a:T,b:T,F(a),F(b)>F(D(ab))").constant('I', "a:T>F(a)").constant('C', "a:#>S(a)")
                 .constant('L', "a:T,F(a),F(D(aa))>F(a)");
         due("6 holes filled", t.check("G(__M)"), 4);
@@ -307,7 +302,7 @@ public final class PromisesTest {
     }
 
     private static void occursInItself() {
-        Talk t = smallWorld().constant('Q', "T,T>*").constant('B', "a:T>Q(aa)").constant('C', "a:T,Q(aD(aE))>T")
+        Talk t = Worlds.small().constant('Q', "T,T>*").constant('B', "a:T>Q(aa)").constant('C', "a:T,Q(aD(aE))>T")
                 .constant('G', "a:T,b:T>Q(ab)").constant('H', "a:T,b:T,Q(ab),Q(bD(aE))>T");
         due("6 a hole that lies in its value", t.check("C(_B(_))"), wrong(3));
         due("6 a hole that does not", t.check("C(_G(__))"), 1);
@@ -316,7 +311,7 @@ public final class PromisesTest {
     }
 
     private static void checkConditions() {
-        Talk t = smallWorld().code('I', "a={a|E>D(EE)|D(xy)>y}").constant('M', ">F(D(EE))")
+        Talk t = Worlds.small().code('I', "a={a|E>D(EE)|D(xy)>y}").constant('M', ">F(D(EE))")
                 .constant('G', "a:T,b:T,?I(a)=b>F(b)").constant('H', "a:T,?I(a)=a,F(a)>F(a)")
                 .constant('N', "a:T,F(a),b:T,?I(a)=D(bb)>F(b)").constant('L', "?I(E)=E>T");
         due("6 a condition fills", t.check("G(E_)"), 8);
@@ -336,23 +331,17 @@ public final class PromisesTest {
         due("6 the first wrong counts", t.check("D(LQ)"), wrong(2));
     }
 
-    /** U adds one node and three characters, the program Q doubles and adds one node and three characters. */
-    private static Talk growingWorld() {
-        return new Talk().constant('T', ">*").constant('E', ">T").constant('U', "T>T").constant('D', "T,T>T")
-                .constant('F', "T>*").code('Q', "a=D(aa)");
-    }
-
-    private static final String NODES_166 = "a=U(Q(U(Q(U(Q(Q(Q(U(Q(a))))))))))";
-    private static final String NODES_199 = "a=Q(Q(Q(U(Q(Q(Q(U(a))))))))";
-    private static final String NODES_200 = "a=U(Q(Q(Q(U(Q(Q(Q(U(a)))))))))";
-    private static final String NODES_201 = "a=Q(U(Q(Q(U(Q(Q(Q(U(a)))))))))";
+    private static final String NODES_166 = Worlds.nodes(166);
+    private static final String NODES_199 = Worlds.nodes(199);
+    private static final String NODES_200 = Worlds.nodes(200);
+    private static final String NODES_201 = Worlds.nodes(201);
     private static final String WIDE_97 = "a=Q(Q(U(Q(U(Q(a))))))";
     private static final String WIDE_98 = "a=U(Q(U(Q(U(Q(U(U(a))))))))";
     private static final String WIDE_100 = "a=U(Q(Q(U(Q(U(Q(a)))))))";
     private static final String WIDE_101 = "a=Q(Q(Q(U(U(U(a))))))";
 
     private static void checkLong() {
-        Talk t = growingWorld().code('B', WIDE_97).constant('I', "a:T,?B(E)=a>F(a)");
+        Talk t = Worlds.growing().code('B', WIDE_97).constant('I', "a:T,?B(E)=a>F(a)");
         due("6 a hundred characters", t.check("I(_)"), 100);
         String page = t.page();
         due("6 steps of it", t.it.steps(), 19);
@@ -363,7 +352,7 @@ public final class PromisesTest {
         due("6 more than a hundred", t.check("O(_L)"), LONG);
         Report.due("6 the page stays", t.page(), page);
         due("6 no result", t.lemma('M'), Talk.STATE);
-        Talk u = growingWorld().code('B', WIDE_98).constant('I', "a:T,?B(E)=a>F(a)");
+        Talk u = Worlds.growing().code('B', WIDE_98).constant('I', "a:T,?B(E)=a>F(a)");
         due("6 the width of a value", u.run('B', "E"), 98);
         due("6 a hundred and one", u.check("I(_)"), LONG);
         due("6 the page stays", u.it.length(), 98);
@@ -371,7 +360,7 @@ public final class PromisesTest {
     }
 
     private static void checkLimitsOfHoles() {
-        Talk t = growingWorld().constant('O', "a:T,F(a)>F(U(a))").code('B', NODES_200)
+        Talk t = Worlds.growing().constant('O', "a:T,F(a)>F(U(a))").code('B', NODES_200)
                 .constant('I', "a:T,?B(E)=a>F(a)").code('C', NODES_199).constant('J', "a:T,?C(E)=a>F(a)");
         due("6 a hole takes 200 nodes", t.check("I(_)"), LONG);
         due("6 and again", t.check("O(_I(_))"), LONG);
@@ -381,7 +370,7 @@ public final class PromisesTest {
     }
 
     private static void checkLimitOfPairs() {
-        Talk t = growingWorld().constant('H', "T,T,T,T,T,T>*").code('B', NODES_199)
+        Talk t = Worlds.growing().constant('H', "T,T,T,T,T,T>*").code('B', NODES_199)
                 .constant('Y', "a:T,?B(E)=a>H(U(a)U(a)U(a)aaa)").constant('Z', "a:T,H(U(a)U(a)U(a)aaa)>T")
                 .constant('V', "a:T,?B(E)=a>H(U(a)U(a)U(a)U(a)aa)").constant('W', "a:T,H(U(a)U(a)U(a)U(a)aa)>T");
         due("6 a thousand pairs", t.check("Z(_Y(_))"), 1);
@@ -389,7 +378,7 @@ public final class PromisesTest {
     }
 
     private static void lemma() {
-        Talk t = smallWorld();
+        Talk t = Worlds.small();
         due("7 no result", t.lemma('L'), Talk.STATE);
         t.check("#");
         due("7 bad letter", t.lemma('l'), Talk.ARGUMENT);
@@ -421,7 +410,7 @@ public final class PromisesTest {
     }
 
     private static void deepestLemma() {
-        Talk t = growingWorld().code('V', "a=U(U(U(U(U(U(U(U(a))))))))").code('B', "a=V(V(V(V(a))))")
+        Talk t = Worlds.growing().code('V', "a=U(U(U(U(U(U(U(U(a))))))))").code('B', "a=V(V(V(V(a))))")
                 .constant('I', "a:T,?B(E)=a>F(a)").constant('O', "a:T,F(a)>F(a)");
         due("7 34 levels", t.check("I(_)"), 100);
         String page = t.page();
@@ -481,7 +470,7 @@ public final class PromisesTest {
     }
 
     private static void runAnswers() {
-        Talk t = smallWorld().code('C', "ab=D(ab)").code('B', "abcd=D(D(ab)D(cd))").code('G', "aa=a");
+        Talk t = Worlds.small().code('C', "ab=D(ab)").code('B', "abcd=D(D(ab)D(cd))").code('G', "aa=a");
         due("9 one", t.run('P', "7"), 1);
         Report.due("9 page", t.page(), "7");
         due("9 a hash", t.run('P', "#"), 1);
@@ -497,7 +486,7 @@ public final class PromisesTest {
     }
 
     private static void runCodes() {
-        Talk t = smallWorld().constant('I', "T,T,T,T,T,T>T")
+        Talk t = Worlds.small().constant('I', "T,T,T,T,T,T>T")
                 .code('A', "a={a|E>1|D(xy)>{y|D(xz)>x|_>y}|3>{a|4>5|_>6}|_>8}")
                 .code('B', "ab=-ab").code('C', "ab=+-abb").code('G', "a={a|I(uvwxyz)>I(zyxwvu)}")
                 .code('H', "a={a|D(xx)>x|E>~}").code('M', "ab={a|_>b}").code('N', "a=+a~").code('O', "a=D(a+aa)");
@@ -522,7 +511,7 @@ public final class PromisesTest {
     }
 
     private static void runComparisons() {
-        Talk t = smallWorld().code('C', "ab=[a=b?1:0]").code('L', "ab=[a<b?1:0]")
+        Talk t = Worlds.small().code('C', "ab=[a=b?1:0]").code('L', "ab=[a<b?1:0]")
                 .constant('A', "a:T,b:T,c:#,?C(ab)=c>S(c)").constant('B', "a:T,c:#,?C(aa)=c>S(c)")
                 .constant('G', "a:#,b:#,c:#,?L(ab)=c>S(c)");
         String[] same = {"11", "12", "EE", "E1", "##", "#T", "D(EE)D(EE)", "D(EE)D(ED(EE))", "DD"};
@@ -553,7 +542,7 @@ public final class PromisesTest {
     }
 
     private static void comparisonsOfAThousand() {
-        Talk t = growingWorld().constant('H', "T,T,T,T,T,T>*").code('B', NODES_166).code('G', NODES_199)
+        Talk t = Worlds.growing().constant('H', "T,T,T,T,T,T>*").code('B', NODES_166).code('G', NODES_199)
                 .code('C', "ab=[a=b?1:0]")
                 .constant('I', "a:T,b:#,?B(E)=a,?C(H(U(a)U(a)U(a)aaa)H(U(a)U(a)U(a)aaa))=b>T")
                 .constant('J', "a:T,b:#,?B(E)=a,?C(H(U(a)U(a)U(a)U(a)aa)H(U(a)U(a)U(a)U(a)aa))=b>T")
@@ -566,7 +555,7 @@ public final class PromisesTest {
     }
 
     private static void runWrongs() {
-        Talk t = smallWorld().code('C', "ab=D(ab)").code('I', "a={a|E>D(EE)|D(xy)>y}").constant('G', "a:T,?I(a)=E>T");
+        Talk t = Worlds.small().code('C', "ab=D(ab)").code('I', "a={a|E>D(EE)|D(xy)>y}").constant('G', "a:T,?I(a)=E>T");
         due("9 no program", t.run('T', "E"), Talk.ARGUMENT);
         due("9 nothing", t.run('Z', ""), Talk.ARGUMENT);
         due("9 no letter", t.run('c', ""), Talk.ARGUMENT);
@@ -596,7 +585,7 @@ public final class PromisesTest {
     }
 
     private static void runLimitOfNodes() {
-        Talk t = growingWorld().code('A', NODES_200).code('B', NODES_201).code('C', "a=E");
+        Talk t = Worlds.growing().code('A', NODES_200).code('B', NODES_201).code('C', "a=E");
         due("9 200 nodes", t.run('A', "E"), LONG);
         due("9 steps of them", t.it.steps(), 10 + 18);
         due("9 201 nodes", t.run('B', "E"), FAILED);
@@ -605,7 +594,7 @@ public final class PromisesTest {
     }
 
     private static int holesAreLookedThrough() {
-        Talk t = growingWorld().code('A', NODES_200).code('B', "a=U(a)").code('C', "a=E")
+        Talk t = Worlds.growing().code('A', NODES_200).code('B', "a=U(a)").code('C', "a=E")
                 .constant('I', "a:T,b:T,?A(E)=a,?C(a)=E,?B(a)=b>T");
         return t.check("I(__)");
     }
@@ -644,7 +633,7 @@ public final class PromisesTest {
     }
 
     private static void runLong() {
-        Talk t = growingWorld().code('A', WIDE_100).code('B', WIDE_101);
+        Talk t = Worlds.growing().code('A', WIDE_100).code('B', WIDE_101);
         due("9 a hundred characters", t.run('A', "E"), 100);
         String page = t.page();
         due("9 more", t.run('B', "E"), LONG);
@@ -656,7 +645,7 @@ public final class PromisesTest {
     }
 
     private static void steps() {
-        Talk t = smallWorld().code('I', "a={a|E>D(EE)|D(xy)>y}").constant('G', "a:T,?I(a)=E>T").code('N', "a=~");
+        Talk t = Worlds.small().code('I', "a={a|E>D(EE)|D(xy)>y}").constant('G', "a:T,?I(a)=E>T").code('N', "a=~");
         due("10 none", t.it.steps(), 0);
         due("10 a run", t.run('I', "E"), 5);
         due("10 its steps", t.it.steps(), 5);
@@ -677,7 +666,7 @@ public final class PromisesTest {
     }
 
     private static void kindAndParameters() {
-        Talk t = smallWorld().code('C', "abcd=a").constant('G', "a:T,?P(a)=a,F(a),?P(a)=a>T");
+        Talk t = Worlds.small().code('C', "abcd=a").constant('G', "a:T,?P(a)=a,F(a),?P(a)=a>T");
         due("11 a constant", t.it.kind('T'), 1);
         due("11 a program", t.it.kind('P'), 2);
         due("11 nothing", t.it.kind('Z'), 0);
@@ -696,7 +685,7 @@ public final class PromisesTest {
     }
 
     private static void lengthAndCharAt() {
-        Talk t = smallWorld().constant('M', "a:T>F(a)");
+        Talk t = Worlds.small().constant('M', "a:T>F(a)");
         t.check("M(E)");
         due("13 length", t.it.length(), 4);
         due("14 first", t.it.charAt(0), 'F');
