@@ -24,6 +24,7 @@ public final class CallEdgesTest {
         thePageOfACheck();
         lemmasOfHoles();
         lemmasOfEachSort();
+        theDeepestLemma();
         theResultStays();
         retracting();
         retractingTheResult();
@@ -410,6 +411,20 @@ public final class CallEdgesTest {
                 t.retract();
             }
         }
+    }
+
+    /** A page of 100 characters has at most 34 levels; the lemma must have them all. */
+    private static void theDeepestLemma() {
+        Talk t = Worlds.growing().code('V', "a=U(U(U(U(U(U(U(U(a))))))))").code('B', "a=V(V(V(V(a))))")
+                .code('C', "a=U(V(V(V(V(a)))))").constant('I', "a:T,?B(E)=a>F(a)").constant('J', "a:T,?C(E)=a>F(a)");
+        due("35 levels", t.check("J(_)"), LONG);
+        due("no lemma of them", t.lemma('L'), Talk.STATE);
+        due("34 levels", t.check("I(_)"), 100);
+        String page = t.page();
+        due("a lemma of them", t.lemma('L'), 0);
+        t.check("1");
+        due("its type", t.check("L"), 100);
+        Report.due("its type", t.page(), page);
     }
 
     private static void theResultStays() {
