@@ -46,7 +46,8 @@ public final class ConditionedProofs {
     private static final int FAILURE = 13;
     private static final int PARAMETER = 14;
     private static final int CONDITION = 15;
-    private static final int LIST = 16;
+    private static final int RESULT = 16;
+    private static final int LIST = 17;
 
     /** What may be read as a piece: a term with holes, one without, a code. */
     private static final int OPEN_TERM = 1;
@@ -152,8 +153,10 @@ public final class ConditionedProofs {
         if (result == null || openResult) {
             throw new IllegalStateException("no result without holes");
         }
+        Node part = new Node(RESULT, UNNAMED, 0);
+        part.add(result);
         Node tree = new Node(LIST, UNNAMED, 0);
-        tree.add(result);
+        tree.add(part);
         enter(new Entry(letter, false, tree));
     }
 
@@ -183,7 +186,7 @@ public final class ConditionedProofs {
         if (wrong != NONE) {
             return WRONG - wrong;
         }
-        int given = runner.carryOut(entry, 0);
+        int given = runner.carryOut(letter, 0);
         if (given == NONE) {
             return FAILED;
         }
@@ -277,9 +280,9 @@ public final class ConditionedProofs {
 
     /**
      * A piece of what was read, with its parts in a chain. A PARAMETER has its name and its term; a CONDITION
-     * its program's letter, the terms and last the one behind = ; a CASE its pattern and its code; a MATCH its
-     * code and its cases. A LIST is a whole text: a declaration's parts and last its result, a program's
-     * parameters and last its code, or terms.
+     * its program's letter, the terms and last the one behind = ; a RESULT its term or STAR; a CASE its pattern
+     * and its code; a MATCH its code and its cases. A LIST is a whole text: a declaration's parts and last its
+     * result, a program's parameters and last its code, or terms.
      */
     static final class Node {
         final int sort;
@@ -533,11 +536,13 @@ public final class ConditionedProofs {
             if (!readParts(tree)) {
                 return null;
             }
+            Node part = new Node(RESULT, UNNAMED, at);
+            tree.add(part);
             if (peek() == '*') {
-                tree.add(leaf(STAR, UNNAMED));
+                part.add(leaf(STAR, UNNAMED));
                 return whole(tree);
             }
-            return whole(withPiece(tree, CLOSED_TERM, 1));
+            return whole(withPiece(part, CLOSED_TERM, 1) == null ? null : tree);
         }
 
         Node readProgram() {
@@ -570,20 +575,13 @@ public final class ConditionedProofs {
 
         private Node readPart() {
             char c = peek();
+            if (c == '#' || isLetter(c)) {
+                return withPiece(new Node(PARAMETER, UNNAMED, at), CLOSED_TERM, 1);
+            }
             if (isVariable(c)) {
                 Node named = leaf(PARAMETER, c);
                 return take(':') ? withPiece(named, CLOSED_TERM, 1) : null;
             }
-            if (c == '?') {
-                return readCondition();
-            }
-            if (c == '#' || isLetter(c)) {
-                return withPiece(new Node(PARAMETER, UNNAMED, at), CLOSED_TERM, 1);
-            }
-            return null;
-        }
-
-        private Node readCondition() {
             if (!take('?') || !isLetter(peek())) {
                 return null;
             }
@@ -668,15 +666,18 @@ public final class ConditionedProofs {
 
         private Node readCase(int depth) {
             Node branch = new Node(CASE, UNNAMED, at);
-            Node pattern = readPattern();
-            if (pattern == null || !take('>')) {
+            Node pattern = readPatternHead();
+            if (pattern == null) {
                 return null;
             }
             branch.add(pattern);
-            return withPiece(branch, CODE, depth);
+            if (pattern.sort == LETTER && take('(') && !readVariables(pattern, MOST_ARGUMENTS, ')')) {
+                return null;
+            }
+            return take('>') ? withPiece(branch, CODE, depth) : null;
         }
 
-        private Node readPattern() {
+        private Node readPatternHead() {
             char c = peek();
             if (c == '_') {
                 return leaf(HOLE, UNNAMED);
@@ -684,11 +685,7 @@ public final class ConditionedProofs {
             if (isDigit(c)) {
                 return leaf(NUMBER, c - '0');
             }
-            if (!isLetter(c)) {
-                return null;
-            }
-            Node pattern = leaf(LETTER, c);
-            return !take('(') || readVariables(pattern, MOST_ARGUMENTS, ')') ? pattern : null;
+            return isLetter(c) ? leaf(LETTER, c) : null;
         }
 
         private Node readChoice(int depth) {
@@ -776,6 +773,8 @@ public final class ConditionedProofs {
      * datum (number, letter, what a hole has), how many arguments it has, and these.
      */
     static final class Values {
+        private static final int DATUM = 1;
+        private static final int COUNT = 2;
         private static final int HEAD = 3;
         private final Row row;
         private final Row waiting;
@@ -800,11 +799,11 @@ public final class ConditionedProofs {
         }
 
         int datumOf(int value) {
-            return row.get(value + 1);
+            return row.get(value + DATUM);
         }
 
         int countOf(int value) {
-            return row.get(value + 2);
+            return row.get(value + COUNT);
         }
 
         int argumentOf(int value, int index) {
@@ -832,7 +831,7 @@ public final class ConditionedProofs {
         int makeConstant(int letter, Bindings arguments, int from) {
             int made = makeSimple(LETTER, letter);
             int count = arguments.size() - from;
-            row.set(made + 2, count);
+            row.set(made + COUNT, count);
             for (int i = 0; i < count; i++) {
                 row.push(arguments.valueAt(from + i));
             }
@@ -841,17 +840,17 @@ public final class ConditionedProofs {
 
         int lookThrough(int value) {
             int seen = value;
-            for (int i = 0; i < row.size() && sortOf(seen) == HOLE && datumOf(seen) != NONE; i++) {
-                seen = datumOf(seen);
+            for (int i = 0; i < row.size() && row.get(seen) == HOLE && row.get(seen + DATUM) != NONE; i++) {
+                seen = row.get(seen + DATUM);
             }
             return seen;
         }
 
         boolean isOpenHole(int seen) {
-            return sortOf(seen) == HOLE;
+            return row.get(seen) == HOLE;
         }
 
-        /** Whether the value has no more nodes than a value may have, and the hole is none of them. */
+        /** Whether the value has no more nodes than a value may have, and the hole (or NONE) is none of them. */
         boolean isSmallWithout(int value, int hole) {
             waiting.cut(0);
             waiting.push(value);
@@ -870,10 +869,6 @@ public final class ConditionedProofs {
             return waiting.size() == 0;
         }
 
-        boolean isSmall(int value) {
-            return isSmallWithout(value, NONE);
-        }
-
         boolean makeSame(int left, int right) {
             startPairs(left, right);
             for (int looked = 0; looked < PAIR_LIMIT; looked++) {
@@ -882,32 +877,30 @@ public final class ConditionedProofs {
                 }
                 int second = lookThrough(pairs.pop());
                 int first = lookThrough(pairs.pop());
-                if (!makePairSame(first, second)) {
+                if (isOpenHole(first) || isOpenHole(second)) {
+                    if (!fillOneOf(first, second)) {
+                        return false;
+                    }
+                } else if (haveSameHead(first, second)) {
+                    pushArgumentPairs(first, second);
+                } else {
                     return false;
                 }
             }
             return pairs.size() == 0;
         }
 
-        private boolean makePairSame(int first, int second) {
-            if (isOpenHole(first)) {
-                return first == second || fill(first, second);
+        /** One of the two at least is a hole without a value. */
+        private boolean fillOneOf(int first, int second) {
+            int hole = isOpenHole(first) ? first : second;
+            int value = hole == first ? second : first;
+            if (value == hole) {
+                return true;
             }
-            if (isOpenHole(second)) {
-                return fill(second, first);
-            }
-            if (!haveSameHead(first, second)) {
-                return false;
-            }
-            pushArgumentPairs(first, second);
-            return true;
-        }
-
-        private boolean fill(int hole, int value) {
             if (sortOf(value) == LETTER && !isSmallWithout(value, hole)) {
                 return false;
             }
-            row.set(hole + 1, value);
+            row.set(hole + DATUM, value);
             return true;
         }
 
@@ -932,8 +925,8 @@ public final class ConditionedProofs {
         }
 
         private boolean haveSameHead(int first, int second) {
-            return sortOf(first) == sortOf(second) && datumOf(first) == datumOf(second)
-                    && countOf(first) == countOf(second);
+            return row.get(first) == row.get(second) && row.get(first + DATUM) == row.get(second + DATUM)
+                    && row.get(first + COUNT) == row.get(second + COUNT);
         }
 
         private void startPairs(int left, int right) {
@@ -944,9 +937,9 @@ public final class ConditionedProofs {
 
         /** The last arguments go in first, so that the first ones come out first. */
         private void pushArgumentPairs(int first, int second) {
-            for (int i = countOf(first) - 1; i >= 0; i--) {
-                pairs.push(argumentOf(first, i));
-                pairs.push(argumentOf(second, i));
+            for (int i = HEAD + row.get(first + COUNT) - 1; i >= HEAD; i--) {
+                pairs.push(row.get(first + i));
+                pairs.push(row.get(second + i));
             }
         }
 
@@ -1067,7 +1060,11 @@ public final class ConditionedProofs {
         }
 
         /** Runs the program with the bindings from a place on, which are gone then. */
-        int carryOut(Entry program, int from) {
+        int carryOut(int letter, int from) {
+            Entry program = dictionary.find(letter);
+            if (program == null) {
+                return NONE;
+            }
             stepsOfRun = 0;
             nameArguments(program, from);
             int given = work(program.tree.last, 1, from);
@@ -1127,7 +1124,7 @@ public final class ConditionedProofs {
             }
             int made = values.makeConstant(code.symbol, bindings, from);
             bindings.cut(from);
-            return values.isSmall(made) ? made : NONE;
+            return values.isSmallWithout(made, NONE) ? made : NONE;
         }
 
         private int reckon(Node code, int depth, int frame) {
@@ -1177,10 +1174,11 @@ public final class ConditionedProofs {
             Node second = first == null ? null : first.next;
             int left = workAndLook(first, depth + 1, frame);
             int right = left == NONE ? NONE : workAndLook(second, depth + 1, frame);
-            if (second == null || right == NONE) {
+            boolean less = code.sort == LESS;
+            if (second == null || right == NONE || less && !areNumbers(left, right)) {
                 return NONE;
             }
-            int holds = code.sort == LESS ? isLess(left, right) : values.compare(left, right);
+            int holds = less ? isLess(left, right) : values.compare(left, right);
             if (holds == NONE) {
                 return NONE;
             }
@@ -1188,9 +1186,6 @@ public final class ConditionedProofs {
         }
 
         private int isLess(int left, int right) {
-            if (!areNumbers(left, right)) {
-                return NONE;
-            }
             return values.datumOf(left) < values.datumOf(right) ? 1 : 0;
         }
 
@@ -1251,9 +1246,21 @@ public final class ConditionedProofs {
         int wrongInDeclaration(Node tree) {
             begin(true);
             for (Node part = tree.first; part != null; part = part.next) {
-                int wrong = wrongInPart(part);
-                if (wrong != NONE) {
-                    return wrong;
+                boolean isCondition = part.sort == CONDITION;
+                if (isCondition && !fitsItsProgram(part)) {
+                    return part.place;
+                }
+                for (Node term = part.first; term != null; term = term.next) {
+                    int found = typeOf(term);
+                    if (found == NONE) {
+                        return wrongPlace;
+                    }
+                    if (!isCondition && !isStar(found)) {
+                        return term.place;
+                    }
+                }
+                if (part.sort == PARAMETER) {
+                    learnName(part.symbol);
                 }
             }
             return NONE;
@@ -1265,48 +1272,15 @@ public final class ConditionedProofs {
             wrongPlace = NONE;
         }
 
-        private int wrongInPart(Node part) {
-            switch (part.sort) {
-                case STAR:
-                    return NONE;
-                case CONDITION:
-                    return wrongInCondition(part);
-                case PARAMETER:
-                    return wrongInParameter(part);
-                default:
-                    return wrongAsType(part);
-            }
-        }
-
-        private int wrongInParameter(Node part) {
-            int wrong = wrongAsType(part.first);
-            if (wrong == NONE && part.symbol != UNNAMED) {
-                bindings.push(part.symbol, values.makeName(), latestValue);
-                namesEnd = bindings.size();
-            }
-            return wrong;
-        }
-
-        private int wrongInCondition(Node condition) {
+        private boolean fitsItsProgram(Node condition) {
             Entry entry = dictionary.find(condition.symbol);
-            int terms = condition.count - 1;
-            if (entry == null || !entry.isProgram || entry.parameterCount != terms) {
-                return condition.place;
-            }
-            for (Node term = condition.first; term != null; term = term.next) {
-                if (typeOf(term) == NONE) {
-                    return wrongPlace;
-                }
-            }
-            return NONE;
+            return entry != null && entry.isProgram && entry.parameterCount == condition.count - 1;
         }
 
-        private int wrongAsType(Node term) {
-            int found = typeOf(term);
-            if (found == NONE) {
-                return wrongPlace;
-            }
-            return isStar(found) ? NONE : term.place;
+        /** The parameter's term is what was looked at last, so its value is the name's type. */
+        private void learnName(int name) {
+            bindings.push(name, values.makeName(), latestValue);
+            namesEnd = bindings.size();
         }
 
         private boolean isStar(int found) {
@@ -1319,7 +1293,8 @@ public final class ConditionedProofs {
                     latestValue = values.makeSimple(NUMBER, term.symbol);
                     return values.makeSimple(HASH, UNNAMED);
                 case HASH:
-                    latestValue = values.makeSimple(HASH, UNNAMED);
+                case STAR:
+                    latestValue = values.makeSimple(term.sort, UNNAMED);
                     return values.makeSimple(STAR, UNNAMED);
                 case VARIABLE:
                     return typeOfVariable(term);
@@ -1354,17 +1329,17 @@ public final class ConditionedProofs {
             Node argument = term.first;
             for (Node part = entry.tree.first; part != null && part != entry.tree.last; part = part.next) {
                 if (part.sort == CONDITION) {
-                    if (!holds(part, frame)) {
+                    int given = runner.carryOut(part.symbol, bindTerms(part, frame));
+                    if (given == NONE || !values.makeSame(given, valueBy(part.last, frame))) {
                         return noType(term.place);
                     }
-                    continue;
-                }
-                if (argument == null || !takeArgument(part, argument, frame)) {
+                } else if (argument != null && takeArgument(part, argument, frame)) {
+                    argument = argument.next;
+                } else {
                     return NONE;
                 }
-                argument = argument.next;
             }
-            int found = valueBy(entry.tree.last, frame);
+            int found = valueBy(entry.tree.last.first, frame);
             latestValue = values.makeConstant(term.symbol, bindings, frame);
             bindings.cut(frame);
             return found;
@@ -1388,17 +1363,13 @@ public final class ConditionedProofs {
             return true;
         }
 
-        private boolean holds(Node condition, int frame) {
-            Entry entry = dictionary.find(condition.symbol);
-            if (entry == null) {
-                return false;
-            }
+        /** Binds what a condition's program runs with, and answers from where on. */
+        private int bindTerms(Node condition, int frame) {
             int from = bindings.size();
             for (Node term = condition.first; term != null && term != condition.last; term = term.next) {
                 bindings.pushUnnamed(valueBy(term, frame));
             }
-            int given = runner.carryOut(entry, from);
-            return given != NONE && values.makeSame(given, valueBy(condition.last, frame));
+            return from;
         }
 
         /** The value of a constant's own term by the names of a frame. */
