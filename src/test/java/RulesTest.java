@@ -29,8 +29,8 @@ import javax.tools.ToolProvider;
 
 /**
  * The program's source keeps to those rules of LANGUAGE.md that can be counted: 2 to 6 (what it is written with)
- * and 11 (how large its pieces are, and how deep calls go that are no recursion). It is handed over as the
- * system property program.
+ * and 11 (how large its pieces are, and how deep calls go that are no recursion). The project's directory is
+ * handed over as the system property root.
  */
 public final class RulesTest {
     private static final int MOST_PARAMETERS = 7;
@@ -44,7 +44,7 @@ public final class RulesTest {
     private static final Set<String> TYPES = Set.of("int", "long", "char", "boolean", "int[]", "char[]");
 
     public static void main(String[] args) throws IOException {
-        File source = new File(System.getProperty("program"));
+        File source = new File(System.getProperty("root"), "src/main/java/ConditionedProofs.java");
         JavaCompiler compiler = ToolProvider.getSystemJavaCompiler();
         StandardJavaFileManager files = compiler.getStandardFileManager(null, null, null);
         JavacTask task = (JavacTask) compiler.getTask(null, files, null, List.of("-proc:none"), null,
